@@ -2,8 +2,8 @@ import java.util.Random;
 
 /** Runs of drawn calls, each answered by the class and by the slow palace alike. */
 public final class RandomRunsTest {
-    private static final int RUNS = 150;
-    private static final int CALLS = 300;
+    private static final int RUNS = 60;
+    private static final int CALLS = 360;
 
     private final Random random;
     private final BellHours quick = new BellHours();
@@ -112,7 +112,26 @@ public final class RandomRunsTest {
 
     // ---- texts
 
+    /** What a palace might be held to: by such a text days differ, and owners gain by swaps. */
+    private String sensibleText() {
+        String[] clauses = {
+            "s0-a%#(k<3)", "s#+r(k>3)", "da/#(k>2)", "d0-#(k=1)", "h#(k=1|r=2)", "h0-t(k=4)", "ws*#/[d+1](k<4)",
+            "w#*o%19+t(s>d)", "w[t*[o+#]+k]%37(1=1)", "wd%#*[24-t](k>1)", "fd/#(d>20)", "fh-#(h>30)", "f#(s<o)",
+            "c#+t%4(h>0)", "n(s<#&k=1|h>80)", "n(p=o&k=5)", "w#(p=o+1)", "w99/[s-#](1=1)"};
+        StringBuilder text = new StringBuilder("w[t*[o+3]+k*7+s]%41(t%2=o%2)");
+        for (int i = random.nextInt(10); i >= 0; i--) {
+            String clause = clauses[random.nextInt(clauses.length)].replace("#", "" + (1 + random.nextInt(30)));
+            if (text.length() + clause.length() < 200) {
+                text.append(";").append(clause);
+            }
+        }
+        return text.toString();
+    }
+
     private String lawText() {
+        if (random.nextBoolean()) {
+            return sensibleText();
+        }
         StringBuilder text = new StringBuilder();
         int clauses = 1 + random.nextInt(16);
         for (int i = 0; i < clauses; i++) {
@@ -324,6 +343,8 @@ public final class RandomRunsTest {
             case 1:
             case 2:
                 int helpers = near(0, 4095);
+                b = random.nextInt(8) == 0 ? b : a + 1 + random.nextInt(6);
+                what = random.nextInt(8) == 0 ? what : b - 1;
                 same("hidden", quick.hidden(a, b, helpers, -1), slow.hidden(a, b, helpers, -1));
                 same("hidden", quick.hidden(a, b, helpers, what), slow.hidden(a, b, helpers, what));
                 break;
@@ -336,7 +357,7 @@ public final class RandomRunsTest {
                 same("holds", quick.holds(what), slow.holds(what));
                 break;
             case 5:
-                what = near(0, 12);
+                what = near(0, random.nextBoolean() ? 1 : 12);
                 same("guilty", quick.guilty(what), slow.guilty(what));
                 break;
             case 6:
