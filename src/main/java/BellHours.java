@@ -726,12 +726,13 @@ public final class BellHours {
         private static final int CLAUSE_TOO_MANY = 4;
         private static final int OPEN_TOO_MANY = 5;
         // A byte 0 can't stand anywhere either, so the end may look like one.
-        private static final int END = 0;
+        private static final char END = 0;
 
         private final int[] text;
         private final Law law;
         private int size = 0;
         private int at = 0;
+        private char sign = END;
         private int fault = 0;
 
         Reader(int[] text, Law law) {
@@ -742,15 +743,28 @@ public final class BellHours {
         /** 0, or the fault as it is answered. */
         int read(int n) {
             size = Math.min(n, text.length);
-            at = 0;
+            at = -1;
             fault = 0;
             law.clear();
-            readClauses();
+            next();
+            boolean more = true;
+            for (int i = 0; i <= MOST_CLAUSES && more; i++) {
+                int letter = Law.CLAUSE_LETTERS.indexOf(sign);
+                if (letter < 0) {
+                    more = fails(CANT_STAND);
+                } else if (i == MOST_CLAUSES) {
+                    more = fails(CLAUSE_TOO_MANY);
+                } else {
+                    next();
+                    more = readClause(letter) && at < size && passes(';');
+                }
+            }
             return fault;
         }
 
-        private int sign() {
-            return at < size ? text[at] : END;
+        private void next() {
+            at++;
+            sign = at < size ? (char) text[at] : END;
         }
 
         private boolean fails(int number) {
@@ -758,35 +772,24 @@ public final class BellHours {
             return false;
         }
 
-        private boolean passes(int sign) {
-            if (sign() != sign) {
+        private boolean passes(char wanted) {
+            if (sign != wanted) {
                 return fails(CANT_STAND);
             }
-            at++;
+            next();
             return true;
         }
 
-        private boolean readClauses() {
-            for (int i = 0; i <= MOST_CLAUSES; i++) {
-                int letter = Law.CLAUSE_LETTERS.indexOf((char) sign());
-                if (letter < 0) {
-                    return fails(CANT_STAND);
-                }
-                if (i == MOST_CLAUSES) {
-                    return fails(CLAUSE_TOO_MANY);
-                }
-                at++;
-                if (!readClause(letter)) {
-                    return false;
-                }
-                if (at >= size) {
-                    return true;
-                }
-                if (!passes(';')) {
-                    return false;
-                }
+        /** Passes one of ( [ ! unless too many are open. */
+        private boolean opens(char wanted, int open) {
+            if (sign != wanted) {
+                return fails(CANT_STAND);
             }
-            return false;
+            if (open >= MOST_OPEN) {
+                return fails(OPEN_TOO_MANY);
+            }
+            next();
+            return true;
         }
 
         private boolean readClause(int letter) {
@@ -806,23 +809,13 @@ public final class BellHours {
         }
 
         private boolean readBracket(int open) {
-            if (!opens('(', open) || !readCondition(open + 1)) {
-                return false;
-            }
-            return passes(')');
-        }
-
-        private boolean opens(int sign, int open) {
-            if (sign() == sign && open >= MOST_OPEN) {
-                return fails(OPEN_TOO_MANY);
-            }
-            return passes(sign);
+            return opens('(', open) && readCondition(open + 1) && passes(')');
         }
 
         private boolean readCondition(int open) {
             boolean fine = readPart(open);
-            for (int i = 0; i < size && fine && sign() == '|'; i++) {
-                at++;
+            for (int i = 0; i < size && fine && sign == '|'; i++) {
+                next();
                 int step = law.size;
                 law.put('|', 0);
                 fine = readPart(open);
@@ -833,8 +826,8 @@ public final class BellHours {
 
         private boolean readPart(int open) {
             boolean fine = readPiece(open);
-            for (int i = 0; i < size && fine && sign() == '&'; i++) {
-                at++;
+            for (int i = 0; i < size && fine && sign == '&'; i++) {
+                next();
                 int step = law.size;
                 law.put('&', 0);
                 fine = readPiece(open);
@@ -844,85 +837,76 @@ public final class BellHours {
         }
 
         private boolean readPiece(int open) {
-            if (sign() == '(') {
+            if (sign == '(') {
                 return readBracket(open);
             }
-            if (sign() == '!') {
-                if (!opens('!', open) || !readPiece(open + 1)) {
-                    return false;
-                }
-                law.put('!', 0);
-                return true;
+            boolean fine;
+            char step = sign;
+            if (sign == '!') {
+                fine = opens('!', open) && readPiece(open + 1);
+            } else {
+                fine = readSum(open);
+                step = sign;
+                fine = fine && comparison() && readSum(open);
             }
-            return readComparison(open);
+            law.put(step, 0);
+            return fine;
         }
 
-        private boolean readComparison(int open) {
-            if (!readSum(open)) {
-                return false;
-            }
-            int sign = sign();
+        private boolean comparison() {
             if (sign != '<' && sign != '>' && sign != '=') {
                 return fails(CANT_STAND);
             }
-            at++;
-            if (!readSum(open)) {
-                return false;
-            }
-            law.put((char) sign, 0);
+            next();
             return true;
         }
 
         private boolean readSum(int open) {
             boolean fine = readProduct(open);
-            for (int i = 0; i < size && fine && (sign() == '+' || sign() == '-'); i++) {
-                char sign = (char) sign();
-                at++;
+            for (int i = 0; i < size && fine && (sign == '+' || sign == '-'); i++) {
+                char step = sign;
+                next();
                 fine = readProduct(open);
-                law.put(sign, 0);
+                law.put(step, 0);
             }
             return fine;
         }
 
         private boolean readProduct(int open) {
             boolean fine = readFactor(open);
-            for (int i = 0; i < size && fine && (sign() == '*' || sign() == '/' || sign() == '%'); i++) {
-                char sign = (char) sign();
-                at++;
+            for (int i = 0; i < size && fine && (sign == '*' || sign == '/' || sign == '%'); i++) {
+                char step = sign;
+                next();
                 fine = readFactor(open);
-                law.put(sign, 0);
+                law.put(step, 0);
             }
             return fine;
         }
 
         private boolean readFactor(int open) {
-            if (sign() == '[') {
+            if (sign == '[') {
                 return opens('[', open) && readSum(open + 1) && passes(']');
             }
-            if (isDigit()) {
+            if (sign >= '0' && sign <= '9') {
                 return readNumber();
             }
-            int letter = Law.SEEN_LETTERS.indexOf((char) sign());
+            int letter = Law.SEEN_LETTERS.indexOf(sign);
             if (letter < 0) {
                 return fails(CANT_STAND);
             }
             law.put(Law.SEEN, letter);
-            at++;
+            next();
             return true;
-        }
-
-        private boolean isDigit() {
-            return sign() >= '0' && sign() <= '9';
         }
 
         private boolean readNumber() {
             int number = 0;
-            for (int digits = 0; digits <= MOST_DIGITS && isDigit(); digits++) {
+            for (int digits = 0; digits <= MOST_DIGITS && sign >= '0' && sign <= '9'; digits++) {
                 if (digits == MOST_DIGITS) {
                     return fails(SIXTH_DIGIT);
                 }
-                number = number * 10 + sign() - '0';
-                at++;
+                number = number * 10 + sign - '0';
+                next();
             }
             law.put(Law.NUMBER, number);
             return true;

@@ -11,6 +11,7 @@ public final class DayTest {
         act();
         noActs();
         dayByHand();
+        actsOfAll();
         notDone();
         whatIsSeen();
         value();
@@ -134,6 +135,22 @@ public final class DayTest {
         DUE.is("the rooms themselves stay", 10, x.found(0, 2, 0));
     }
 
+    private static void actsOfAll() {
+        BellHours x = new BellHours();
+        Due.law(x, 0, "w[t*7+k]*8+r+a(1=1)");
+        int[] sums = new int[12];
+        for (int o = 0; o < 12; o++) {
+            x.own(2 * o, o);
+            for (int i = 0; i < 5; i++) {
+                x.act(o, (o + i) % 7, (3 * o + i) % 8, 7 * o + i);
+                sums[o] += Math.min(999, (14 * o + (o + i) % 7) * 8 + (3 * o + i) % 8 + 7 * o + i);
+            }
+        }
+        for (int o = 0; o < 12; o++) {
+            DUE.is("ACTS of " + o, sums[o], x.hourIs(2 * o, 1));
+        }
+    }
+
     private static void notDone() {
         BellHours x = new BellHours();
         x.own(0, 0);
@@ -206,6 +223,8 @@ public final class DayTest {
         DUE.is("hours of 7", 2, x.value(7, 3));
         DUE.is("value of 8", 108 - 8, x.value(8, 0));
         DUE.is("value of 9", 0, x.value(9, 0));
+        x.own(0, 9);
+        DUE.is("hours of 9", 1, x.value(9, 3));
         Due.law(x, 0, "f999(1=1)");
         DUE.is("a value below 0", -2 * 8 * 999, x.value(7, 0));
     }

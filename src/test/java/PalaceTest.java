@@ -77,6 +77,11 @@ public final class PalaceTest {
         DUE.is("the least row moves in 2", 2, x.hidden(0, 5, 4 + 2 + 1, 2));
         DUE.is("2 in place of 0", 3, x.hidden(0, 5, 4 + 2, -1));
         DUE.is("then it must", 2, x.hidden(0, 5, 4 + 2, 2));
+        BellHours y = owned(0);
+        y.searches(0, 1);
+        DUE.is("ROOM 1", 1, y.hidden(0, 1, 0, 0));
+        y.searches(0, 255 - 128);
+        DUE.is("ROOM 7", 7, y.hidden(0, 1, 0, 0));
         DUE.is("fewer moves go ahead of a lower row", 0, x.hidden(1, 3, 4095, -1));
         DUE.is("fewer moves go ahead of a lower row", 3, x.hidden(1, 3, 4095, 2));
     }
@@ -131,6 +136,20 @@ public final class PalaceTest {
     }
 
     private static void guilty() {
+        BellHours one = owned(3);
+        DUE.is("one OWNER alone, but it may be whole", -2, one.guilty(0));
+        DUE.is("all may lie", -2, one.guilty(12));
+        BellHours first = owned(3, 4, 3);
+        first.says(1, 1);
+        first.says(2, 0);
+        DUE.is("in HOUR 0", 3, first.guilty(0));
+        first.says(0, 1);
+        first.own(5, 6);
+        first.says(5, 1);
+        DUE.is("in HOUR 0 again", 1, first.holds(0));
+        BellHours early = owned(7, 8);
+        early.says(0, 1);
+        DUE.is("broken ahead of HOUR 0 is untrue, but by itself", 1, early.holds(0));
         BellHours x = owned(5, 6, 5);
         DUE.is("it may be whole", -2, x.guilty(0));
         x.own(10, 7);
@@ -175,6 +194,10 @@ public final class PalaceTest {
         DUE.is("nobody's alone", 0, x.guest(3, 4, 99, 4));
         DUE.is("not with the last", 0, x.guest(0, 4, 99, 9));
         DUE.is("without an HOUR", 0, x.guest(0, 24, 99999, 0));
+        x.own(8, 0);
+        x.own(9, 1);
+        DUE.is("the lowest of all", 3, x.guest(8, 10, 5, 0));
+        DUE.is("the next", 2, x.guest(8, 10, 5, 1));
         DUE.is("all pence", 99999, x.guest(4, 5, 99999, 9));
         DUE.is("no pence", 0, x.guest(0, 24, 0, 4));
         int[][] wrong = {{-1, 3, 5, 0}, {3, 3, 5, 0}, {4, 3, 5, 0}, {0, 25, 5, 0}, {24, 24, 5, 0}, {0, 3, -1, 0},
@@ -191,6 +214,7 @@ public final class PalaceTest {
         x.act(1, 0, 0, 0);
         x.searches(0, 255);
         x.searches(3, 255);
+        DUE.is("the DAY ahead of it", 0, x.hourIs(0, 0));
         DUE.is("had five HOURS", 5, x.dies(0));
         int[] then = {3, 3, 1, 1, 1, 2, 12, 12, 1};
         for (int h = 0; h < then.length; h++) {
@@ -200,6 +224,7 @@ public final class PalaceTest {
         DUE.is("those of others stay", 1, x.count(11));
         x.own(20, 0);
         DUE.is("its SEARCHES fall", 0, x.hidden(20, 21, 0, -1));
+        DUE.is("all of them", 0, x.hidden(20, 21, 0, 20));
         DUE.is("those of others stay", -2, x.hidden(23, 24, 0, -1));
         DUE.is("without an HOUR", 0, x.dies(11));
         DUE.is("no such one", -1, x.dies(-1));

@@ -6,6 +6,7 @@ public final class TradeTest {
 
     public static void main(String[] args) {
         bestOrder();
+        everyRow();
         price();
         neighbour();
         gain();
@@ -57,6 +58,35 @@ public final class TradeTest {
         DUE.is("the least row of them", 0, x.bestOrder(7, 0));
     }
 
+    /** By a LAW that pays each ACT at one place alone, each of the 120 rows is the best one once. */
+    private static void everyRow() {
+        for (int code = 0; code < 3125; code++) {
+            int[] row = {code / 625, code / 125 % 5, code / 25 % 5, code / 5 % 5, code % 5};
+            int seen = 0;
+            for (int act : row) {
+                seen |= 1 << act;
+            }
+            if (seen == 31) {
+                oneRow(row);
+            }
+        }
+    }
+
+    private static void oneRow(int[] row) {
+        BellHours x = new BellHours();
+        x.own(0, 11);
+        StringBuilder test = new StringBuilder("1=2");
+        for (int i = 0; i < 5; i++) {
+            x.act(11, 0, 0, i);
+            test.append("|d=").append(i).append("&a=").append(row[i]);
+        }
+        Due.law(x, 0, "d1(1=1);w9(" + test + ")");
+        DUE.is("all five are paid", 45, x.bestOrder(0, -1));
+        for (int i = 0; i < 5; i++) {
+            DUE.is("at " + i, row[i], x.bestOrder(0, i));
+        }
+    }
+
     /** Each ACT takes 5 from the store of ROOM 0 and is worth what it found there. */
     private static BellHours eaters() {
         BellHours x = new BellHours();
@@ -82,6 +112,9 @@ public final class TradeTest {
         DUE.is("of 23: 1 + 100, else 1", 100, x.price(23));
         x.own(0, 1);
         DUE.is("HOUR 0 sees 23: 1 + 1 + 100, else 100 + 1", 1, x.price(23));
+        Due.law(x, 0, "f5(1=1)");
+        Due.law(x, 1, "f7(1=1)");
+        DUE.is("fines by LAW 0", -40, x.price(23));
     }
 
     private static void neighbour() {
@@ -108,6 +141,10 @@ public final class TradeTest {
         x.own(5, 1);
         DUE.is("of the first", -5, x.gain(3, 5, 0));
         DUE.is("of the second", 5, x.gain(3, 5, 1));
+        DUE.is("the day that was asked of before", 20, x.hourIs(3, 1));
+        x.swap(3, 5);
+        DUE.is("another one behind a swap", 15, x.value(0, 0));
+        x.swap(3, 5);
         DUE.is("turned round", 5, x.gain(5, 3, 0));
         DUE.is("turned round", -5, x.gain(5, 3, 1));
         DUE.is("one HOUR", NO, x.gain(3, 3, 0));
@@ -168,6 +205,11 @@ public final class TradeTest {
         DUE.is("no such what", -1, x.bestSwap(-1));
         x.act(1, 1, 0, 0);
         Due.law(x, 0, "w5(k=0&t>9);w5(k=1&t<9)");
+        Due.law(x, 0, "w5(k=0&t>9);w5(k=1)");
+        DUE.is("one that gains nothing", -2, x.bestSwap(2));
+        Due.law(x, 0, "w5(k=0);w5(k=1&t<9)");
+        DUE.is("one that gains nothing", -2, x.bestSwap(2));
+        Due.law(x, 0, "w5(k=0&t>9);w5(k=1&t<9)");
         DUE.is("of like ones the lower first", 3, x.bestSwap(0));
         DUE.is("of like ones the lower second", 10, x.bestSwap(1));
         DUE.is("together", 10, x.bestSwap(2));
@@ -219,6 +261,10 @@ public final class TradeTest {
         x.own(1, -1);
         x.own(2, -1);
         DUE.is("no fines of nobody's", 0, x.finesBy(1));
+        x.own(0, 5);
+        x.own(23, 5);
+        Due.law(x, 1, "f1+t(1=1)");
+        DUE.is("the first HOUR and the last one", 8 + 8 * 24, x.finesBy(1));
     }
 
     private static void wrongInputs() {
