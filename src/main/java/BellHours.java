@@ -577,6 +577,7 @@ public final class BellHours {
     /** A LAW as steps over a pile of numbers: a step bears the sign it stands for in the TEXT. */
     private static final class Law {
         private static final String CLAUSE_LETTERS = "nsdhwfc";
+        private static final int LETTERS = 7;
         private static final String SEEN_LETTERS = "karsdhtop";
         private static final int FORBIDS = 0;
         private static final int MORE_STORE = 1;
@@ -599,8 +600,8 @@ public final class BellHours {
         private final int[] numberFrom = new int[MOST_CLAUSES];
         private final int[] testFrom = new int[MOST_CLAUSES];
         private final int[] testTo = new int[MOST_CLAUSES];
-        private final int[] ofLetter = new int[KINDS * MOST_CLAUSES];
-        private final int[] letterCounts = new int[KINDS];
+        private final int[] ofLetter = new int[LETTERS * MOST_CLAUSES];
+        private final int[] letterCounts = new int[LETTERS];
         private final int[] pile = new int[PILE];
 
         void clear() {
@@ -618,7 +619,7 @@ public final class BellHours {
             System.arraycopy(other.testFrom, 0, testFrom, 0, MOST_CLAUSES);
             System.arraycopy(other.testTo, 0, testTo, 0, MOST_CLAUSES);
             System.arraycopy(other.ofLetter, 0, ofLetter, 0, ofLetter.length);
-            System.arraycopy(other.letterCounts, 0, letterCounts, 0, KINDS);
+            System.arraycopy(other.letterCounts, 0, letterCounts, 0, LETTERS);
         }
 
         void put(char sign, int number) {
