@@ -1,6 +1,6 @@
 import java.util.function.Consumer;
 
-/** What was asked before a change is not told behind it: two palaces are changed alike, one of which was asked of everything before. */
+/** What was asked before a change is not told behind it: two palaces are changed alike, one of which was asked before. */
 public final class ChangesSeenTest {
     private static final Due DUE = new Due("ChangesSeenTest");
 
@@ -29,12 +29,17 @@ public final class ChangesSeenTest {
         DUE.end();
     }
 
+    /** A FAULT empties the tape; nothing is asked of a DAY by it. */
+    private static BellHours withoutTape() {
+        BellHours x = Twins.palace();
+        DUE.is("a FAULT", -1013, x.law(1, 13));
+        return x;
+    }
+
     private static void seen(String change, Consumer<BellHours> one) {
-        BellHours fresh = Twins.palace();
-        fresh.check(0, 0);
+        BellHours fresh = withoutTape();
         one.accept(fresh);
-        BellHours asked = Twins.palace();
-        asked.check(0, 0);
+        BellHours asked = withoutTape();
         // Little is asked: the calls of one palace are counted.
         asked.hourIs(23, 1);
         asked.bestSwap(0);
@@ -46,8 +51,7 @@ public final class ChangesSeenTest {
         one.accept(asked);
         int[] due = Twins.told(fresh);
         DUE.is(change + " is not seen at", -1, Twins.firstUnlike(due, Twins.told(asked)));
-        BellHours still = Twins.palace();
-        still.check(0, 0);
+        BellHours still = withoutTape();
         DUE.yes(change + " changes something", Twins.firstUnlike(due, Twins.told(still)) >= 0);
     }
 }

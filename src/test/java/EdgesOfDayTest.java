@@ -91,7 +91,8 @@ public final class EdgesOfDayTest {
     }
 
     private static void fromHour0On() {
-        EDGES.words("Terms", "A DAY from HOUR 0 on: in each HOUR that is owned each ACT of its OWNER, one behind the other");
+        EDGES.words("Terms", "A DAY from HOUR 0 on: in each HOUR that is owned each ACT of its OWNER, one behind the "
+            + "other");
         BellHours x = Edges.owned(1);
         x.own(23, 1);
         x.act(1, 0, 0, 3);
@@ -343,7 +344,8 @@ public final class EdgesOfDayTest {
     }
 
     private static void law() {
-        EDGES.words("Promise 5", "LAW w (0, 1) by the first n bytes of the tape (1 to 200; empty then), in place of the one before: how many CLAUSES");
+        EDGES.words("Promise 5", "LAW w (0, 1) by the first n bytes of the tape (1 to 200; empty then), in place of "
+            + "the one before: how many CLAUSES");
         BellHours x = Edges.owned(0);
         x.act(0, 0, 0, 0);
         Due.text(x, "w5(1=1);n(1=2);n(1=3)");
@@ -467,7 +469,8 @@ public final class EdgesOfDayTest {
     }
 
     private static void found() {
-        EDGES.words("Promise 8", "What an HOUR (24: the end) finds in a ROOM, what 0 STORE, 1 DIRT, 2 HEAT; NONE: no such ones.");
+        EDGES.words("Promise 8", "What an HOUR (24: the end) finds in a ROOM, what 0 STORE, 1 DIRT, 2 HEAT; NONE: no "
+            + "such ones.");
         BellHours x = new BellHours();
         x.own(23, 4);
         x.room(7, 50, 60, 70);
@@ -491,7 +494,8 @@ public final class EdgesOfDayTest {
     }
 
     private static void hourIs() {
-        EDGES.words("Promise 9", "Of an HOUR, what 0 the OWNER (12: nobody), 1 worths, 2 FINES, 3 how many ACTS were not done, "
+        EDGES.words("Promise 9", "Of an HOUR, what 0 the OWNER (12: nobody), 1 worths, 2 FINES, 3 how many ACTS were "
+            + "not done, "
             + "4 the first of these (NONE: none); -1000000: no such ones.");
         BellHours x = new BellHours();
         x.own(0, 11);
@@ -526,7 +530,8 @@ public final class EdgesOfDayTest {
     }
 
     private static void value() {
-        EDGES.words("Promise 10", "Of an OWNER, what 0 VALUE, 1 worths, 2 FINES, 3 HOURS (how many); -1000000: no such ones.");
+        EDGES.words("Promise 10", "Of an OWNER, what 0 VALUE, 1 worths, 2 FINES, 3 HOURS (how many); -1000000: no "
+            + "such ones.");
         BellHours x = new BellHours();
         x.own(0, 11);
         x.own(23, 11);

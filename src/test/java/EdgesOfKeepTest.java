@@ -133,7 +133,8 @@ public final class EdgesOfKeepTest {
     }
 
     private static void storesByRooms() {
-        EDGES.words("Terms", "CHECK of an HOUR: STORES that it finds, by ROOMS: right, or the first number that is not so.");
+        EDGES.words("Terms", "CHECK of an HOUR: STORES that it finds, by ROOMS: right, or the first number that is "
+            + "not so.");
         BellHours x = new BellHours();
         for (int r = 0; r < 8; r++) {
             x.room(r, 10 * r, 1, 2);
@@ -166,7 +167,8 @@ public final class EdgesOfKeepTest {
     }
 
     private static void check() {
-        EDGES.words("Promise 31", "CHECK of an HOUR by the first n numbers of the tape (0 to 8; four bytes each; empty then): NONE: right; "
+        EDGES.words("Promise 31", "CHECK of an HOUR by the first n numbers of the tape (0 to 8; four bytes each; "
+            + "empty then): NONE: right; "
             + "else the place of the first number that is not so");
         for (int n = 0; n <= 8; n++) {
             BellHours x = new BellHours();
@@ -217,7 +219,8 @@ public final class EdgesOfKeepTest {
     }
 
     private static void count() {
-        EDGES.words("Promise 32", "0, 1 CLAUSES of LAW 0, 1, 2 bytes of the tape, 3 X, 4 HOURS that have an OWNER; 10 + o ACTS of OWNER o, "
+        EDGES.words("Promise 32", "0, 1 CLAUSES of LAW 0, 1, 2 bytes of the tape, 3 X, 4 HOURS that have an OWNER; 10 "
+            + "+ o ACTS of OWNER o, "
             + "30 + h the WORD of HOUR h. NONE for others.");
         BellHours x = new BellHours();
         Due.law(x, 0, "n(1=1);n(1=1)");

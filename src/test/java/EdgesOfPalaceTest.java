@@ -42,7 +42,8 @@ public final class EdgesOfPalaceTest {
     }
 
     private static void oneBehindTheOther() {
-        EDGES.words("Terms", "TOUCHING are two HOURS one behind the other (23 and 0, too): how often an HOUR of one OWNER and one of another one do.");
+        EDGES.words("Terms", "TOUCHING are two HOURS one behind the other (23 and 0, too): how often an HOUR of one "
+            + "OWNER and one of another one do.");
         EDGES.is("all HOURS", 24, alternating(0, 11).touching(0, 11));
         EDGES.is("all HOURS, turned round", 24, alternating(0, 11).touching(11, 0));
         BellHours x = new BellHours();
@@ -152,7 +153,8 @@ public final class EdgesOfPalaceTest {
     }
 
     private static void inAnotherRoom() {
-        EDGES.words("Terms", "it may be in another ROOM than in the HOUR ahead if a HELPER (OWNERS as bits) owns that HOUR "
+        EDGES.words("Terms", "it may be in another ROOM than in the HOUR ahead if a HELPER (OWNERS as bits) owns that "
+            + "HOUR "
             + "(in the first one it may be anywhere)");
         BellHours x = Edges.owned(0, 11);
         x.searches(0, 255 - 1);
@@ -216,7 +218,8 @@ public final class EdgesOfPalaceTest {
     }
 
     private static void hidden() {
-        EDGES.words("Promise 21", "A THING hidden, what NONE moves, else the ROOM in HOUR what; -2: it can't be; -3: no such ones "
+        EDGES.words("Promise 21", "A THING hidden, what NONE moves, else the ROOM in HOUR what; -2: it can't be; -3: "
+            + "no such ones "
             + "(to above from), an HOUR that is not in it.");
         BellHours x = new BellHours();
         int[][] wrong = {{0, 0, 0, -1}, {5, 5, 0, -1}, {24, 24, 0, -1}, {5, 4, 0, -1}, {24, 0, 0, -1}, {-1, 4, 0, -1},
@@ -261,7 +264,8 @@ public final class EdgesOfPalaceTest {
     }
 
     private static void words() {
-        EDGES.words("Terms", "of each HOUR what its OWNER says it found: 0 it was whole, 1 it was broken (already when the HOUR began), 2 nothing (at first)");
+        EDGES.words("Terms", "of each HOUR what its OWNER says it found: 0 it was whole, 1 it was broken (already "
+            + "when the HOUR began), 2 nothing (at first)");
         BellHours x = Edges.owned(0, 1, 2);
         for (int h = 0; h < 24; h++) {
             EDGES.is("at first, HOUR " + h, 2, x.count(30 + h));
@@ -300,7 +304,8 @@ public final class EdgesOfPalaceTest {
     }
 
     private static void holdsIf() {
-        EDGES.words("Terms", "HOLDS a HOUR (24: it did not break) if at most so many OWNERS (0 to 12) say something untrue in some of "
+        EDGES.words("Terms", "HOLDS a HOUR (24: it did not break) if at most so many OWNERS (0 to 12) say something "
+            + "untrue in some of "
             + "their HOURS, but for whom it broke by (whose words count for nothing then)");
         BellHours x = new BellHours();
         for (int h = 0; h < 12; h++) {
@@ -352,7 +357,8 @@ public final class EdgesOfPalaceTest {
     }
 
     private static void guiltyIf() {
-        EDGES.words("Terms", "GUILTY: the one OWNER of all that HOLD, if they are all of one OWNER (and 24 does not HOLD)");
+        EDGES.words("Terms", "GUILTY: the one OWNER of all that HOLD, if they are all of one OWNER (and 24 does not "
+            + "HOLD)");
         BellHours x = Edges.owned(7);
         EDGES.is("24 HOLDS as well", -2, x.guilty(0));
         x.says(0, 1);
@@ -403,7 +409,8 @@ public final class EdgesOfPalaceTest {
     }
 
     private static void byHours() {
-        EDGES.words("Terms", "A GUEST stays from an HOUR to another one (not with it) and pays so many pence (0 to 99999) to those "
+        EDGES.words("Terms", "A GUEST stays from an HOUR to another one (not with it) and pays so many pence (0 to "
+            + "99999) to those "
             + "whose HOURS it has (nobody's: for nothing): by HOURS, rounded down");
         BellHours x = Edges.owned(4, 4, 4, 5, -1, -1, 6);
         EDGES.is("3 of 4 HOURS", 75, x.guest(0, 4, 100, 4));
@@ -468,7 +475,8 @@ public final class EdgesOfPalaceTest {
     }
 
     private static void nearestHourAhead() {
-        EDGES.words("Terms", "each HOUR of its goes to the OWNER of the nearest HOUR ahead of it (round the day) that is another one's (nobody: to nobody)");
+        EDGES.words("Terms", "each HOUR of its goes to the OWNER of the nearest HOUR ahead of it (round the day) that "
+            + "is another one's (nobody: to nobody)");
         BellHours x = Edges.owned(5, 5, 1, 5, 5, 2, 5, -1, 5);
         x.own(22, 3);
         x.own(23, 5);
@@ -549,7 +557,8 @@ public final class EdgesOfPalaceTest {
     }
 
     private static void drawn() {
-        EDGES.words("Terms", "DRAWN: n times (1 to 40): X = (25173 X + 13849) modulo 65536 (X is THE SEED at first, 1): "
+        EDGES.words("Terms", "DRAWN: n times (1 to 40): X = (25173 X + 13849) modulo 65536 (X is THE SEED at first, "
+            + "1): "
             + "HOUR X modulo 24 is OWNER X / 24 modulo 12's then.");
         int[] seeds = {0, 1, 2, 65535, 65534, 32768, 39022};
         for (int seed : seeds) {

@@ -283,7 +283,8 @@ public final class EdgesOfTextTest {
     }
 
     private static void sums() {
-        EDGES.words("Terms", "E: TERMS with + or - between two; a TERM: FACTORS with one of * / % between two; from the left on");
+        EDGES.words("Terms", "E: TERMS with + or - between two; a TERM: FACTORS with one of * / % between two; from "
+            + "the left on");
         String[] es = {"9-4-3", "9-[4-3]", "9-4+3", "2+3*4", "[2+3]*4", "20/2/5", "20/[10/5]", "7%4*2", "7*4%5", "20%7%4",
             "9/2*2", "2*9/2", "1+9%5-2", "[[3]]", "7/2", "10+[0-7]/2", "10+[0-7]%4", "10+7%[0-4]", "10+7/[0-2]",
             "7/1", "7%1", "10+[0-7]/1", "7*1", "7*0", "0/7", "0%7", "6%7", "6/7"};
@@ -311,7 +312,8 @@ public final class EdgesOfTextTest {
     }
 
     private static void letters() {
-        EDGES.words("Terms", "k the KIND, a the AMOUNT (both 0 in f c), r the ROOM, s d h its STORE, DIRT, HEAT, t the HOUR, o the OWNER");
+        EDGES.words("Terms", "k the KIND, a the AMOUNT (both 0 in f c), r the ROOM, s d h its STORE, DIRT, HEAT, t "
+            + "the HOUR, o the OWNER");
         String letters = "karsdhto";
         int[][] ends = {{0, 0, 0, 0, 0, 0, 0, 0}, {6, 99, 7, 99, 99, 99, 23, 11}};
         for (int[] are : ends) {
@@ -513,7 +515,8 @@ public final class EdgesOfTextTest {
     }
 
     private static void seventhOpen() {
-        EDGES.words("Terms", "5 a seventh of ( [ ! that are open in one another, at it (the ( of the CLAUSE counts; a ! is open "
+        EDGES.words("Terms", "5 a seventh of ( [ ! that are open in one another, at it (the ( of the CLAUSE counts; a "
+            + "! is open "
             + "till its PIECE ends; the E of a CLAUSE stands ahead of it)");
         EDGES.is("six (", 1, read("n((((((1=1))))))"));
         EDGES.is("seven (", -5007, read("n(((((((1=1)))))))"));

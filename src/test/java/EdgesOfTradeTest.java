@@ -44,7 +44,8 @@ public final class EdgesOfTradeTest {
     }
 
     private static void mostOfThatHourAlone() {
-        EDGES.words("Terms", "its OWNER's ACTS in the order by which worths less FINES of that HOUR alone are most (from what it finds)");
+        EDGES.words("Terms", "its OWNER's ACTS in the order by which worths less FINES of that HOUR alone are most "
+            + "(from what it finds)");
         BellHours x = withActs(2, 0, 1);
         Due.law(x, 0, "s0-60(a=0);s60(a=1);w1(t=0&a=0&s=60);w500(t=1&a=1&s=60)");
         EDGES.is("that HOUR alone", 1, x.bestOrder(0, -1));
@@ -101,7 +102,8 @@ public final class EdgesOfTradeTest {
     }
 
     private static void bestOrder() {
-        EDGES.words("Promise 11", "BEST ORDER, what NONE what it comes to, else the ACT at place what; -1000000: no such ones, nobody's, no such place.");
+        EDGES.words("Promise 11", "BEST ORDER, what NONE what it comes to, else the ACT at place what; -1000000: no "
+            + "such ones, nobody's, no such place.");
         int[] hours = {0, 23};
         for (int acts = 0; acts <= 5; acts++) {
             for (int hour : hours) {
@@ -244,7 +246,8 @@ public final class EdgesOfTradeTest {
     }
 
     private static void gain() {
-        EDGES.words("Promise 14", "GAIN of the OWNER of HOUR a (what 0), of b (1); -1000000: no such ones, nobody's, of one OWNER.");
+        EDGES.words("Promise 14", "GAIN of the OWNER of HOUR a (what 0), of b (1); -1000000: no such ones, nobody's, "
+            + "of one OWNER.");
         BellHours x = Edges.owned(0, 1, 0);
         x.own(23, 11);
         x.act(0, 0, 0, 0);
@@ -347,7 +350,8 @@ public final class EdgesOfTradeTest {
     }
 
     private static void bestSwap() {
-        EDGES.words("Promise 16", "BEST SWAP, what 0, 1 the HOURS, 2 both gains together; -2: there is none; NONE: no such what.");
+        EDGES.words("Promise 16", "BEST SWAP, what 0, 1 the HOURS, 2 both gains together; -2: there is none; NONE: no "
+            + "such what.");
         BellHours x = earlyAndLate();
         for (int what = 0; what < 3; what++) {
             EDGES.is("none is owned", -2, x.bestSwap(what));
@@ -407,7 +411,8 @@ public final class EdgesOfTradeTest {
     }
 
     private static void lawsCompared() {
-        EDGES.words("Terms", "LAWS compared: FINES of all HOURS together in a DAY, ACTS as by LAW 0, FINES (f) by LAW 0 or 1.");
+        EDGES.words("Terms", "LAWS compared: FINES of all HOURS together in a DAY, ACTS as by LAW 0, FINES (f) by LAW "
+            + "0 or 1.");
         BellHours x = Edges.owned(0, 1, -1);
         x.own(23, 1);
         x.act(0, 0, 0, 0);
